@@ -42,6 +42,7 @@ public final class PromisesTest {
     days();
     loose();
     looseStep();
+    looseAtTheEnd();
     seed();
     joined();
     load();
@@ -474,6 +475,10 @@ public final class PromisesTest {
     gives("0&0|5", 0, 0, 0, 1);
     gives("5|0&0", 0, 0, 0, 1);
     gives("4&2", 0, 0, 0, 1);
+    gives("1&1", 0, 0, 0, 1);
+    gives("0&3", 0, 0, 0, 0);
+    gives("3&0", 0, 0, 0, 0);
+    gives("0|3", 0, 0, 0, 1);
     gives("0|0", 0, 0, 0, 0);
     gives("2=2", 0, 0, 0, 1);
     gives("2=3", 0, 0, 0, 0);
@@ -537,6 +542,15 @@ public final class PromisesTest {
     faulty(0, "!", 1);
     faulty(0, "!)", 1);
     faulty(0, "1|", 2);
+    faulty(0, "1&", 2);
+    faulty(0, "1<", 2);
+    faulty(0, "1=", 2);
+    faulty(0, "1>", 2);
+    faulty(0, "1+", 2);
+    faulty(0, "1-", 2);
+    faulty(0, "1*", 2);
+    faulty(0, "1/", 2);
+    faulty(0, "1%", 2);
     faulty(0, "1||1", 2);
     faulty(0, "1&&1", 2);
     faulty(0, "r+\u00e9", 2);
@@ -679,6 +693,18 @@ public final class PromisesTest {
     due("16: AGE", y.spanIs(0, 4), 1);
     due("16: TOLL", y.count(5), 0);
     due("16: LOST", y.count(4), 0);
+  }
+
+  private static void looseAtTheEnd() {
+    BreadSpans x = withSpans(40, 0, 1);
+    ages(x, 9970);
+    written(x, 1, "0");
+    due("16: STATE", x.loose(30), STATE);
+    due("16: DAY stays", x.count(1), 9970);
+    due("16: z stays", x.count(9), 1);
+    due("16: no crumbs are no break", x.loose(29), 0);
+    due("16: DAY", x.count(1), 9999);
+    due("16: TOLL", x.count(5), 0);
   }
 
   /** Many a DAY, each worked out from the draws. */
@@ -843,6 +869,7 @@ public final class PromisesTest {
     due("21: all", y.eating(0, 1, 0, 0), 9);
     due("21: all", y.eating(0, 1, 0, 1), 511);
     due("21: only thought", y.joined(0, 0), 3);
+    nineSpans(y);
     due("21: one below", x.eating(-1, 0, 0, 0), BEYOND);
     due("21: one above", x.eating(8, 0, 0, 0), BEYOND);
     due("21: other below", x.eating(0, -1, 0, 0), BEYOND);
@@ -852,6 +879,23 @@ public final class PromisesTest {
     due("21: load above", x.eating(0, 1, 100, 0), BEYOND);
     due("21: what below", x.eating(0, 1, 0, -1), BEYOND);
     due("21: what above", x.eating(0, 1, 0, 2), BEYOND);
+  }
+
+  /** As many as there may be, each a loaf between PLACES 0 and 1. */
+  private static void nineSpans(BreadSpans y) {
+    y.days(1);
+    due("15: AGE of the last", y.spanIs(8, 4), 1);
+    due("20: all as good", y.baking(0, 1, 20, 1), 1);
+    y.become(8, 60);
+    due("20: the last", y.baking(0, 1, 21, 1), 256);
+    y.sheet(0, 8, 10);
+    for (int i = 0; i < 9; i++) {
+      y.put(0, i, i < 8 ? 18 : 19);
+    }
+    due("32: all nine", y.judge(0), 9);
+    due("31: not to 9", y.soaks(0), 0);
+    y.sheet(0, 8, 10);
+    due("31: all nine", y.soaks(0), 9);
   }
 
   // ---- promise 22
@@ -880,6 +924,7 @@ public final class PromisesTest {
     written(z, 0, "0");
     due("22: at the 6th", z.lasts(0, 1, 1), 6);
     lateEnd();
+    sixtyDays();
     due("22: one below", x.lasts(-1, 0, 0), BEYOND);
     due("22: one above", x.lasts(8, 0, 0), BEYOND);
     due("22: other below", x.lasts(0, -1, 0), BEYOND);
@@ -899,6 +944,25 @@ public final class PromisesTest {
     written(y, 0, "0-9");
     y.days(10);
     due("22: for 0 always", y.lasts(0, 1, 0), NONE);
+  }
+
+  /**
+   * PIETY bears 0 each seventh DAY, a toast each tenth, when it is dry: both first behind 60, or 61.
+   */
+  private static void sixtyDays() {
+    BreadSpans x = withSpans(60, 0, 1, 50, 0, 1);
+    x.sheet(0, 8, 2);
+    x.days(10);
+    written(x, 0, "(w=0)*9-(w>0)");
+    x.soak(1, 0);
+    due("22: sixty", x.lasts(0, 1, 1), 60);
+    due("25: sixty", x.fits(0), 60);
+    x.days(6);
+    x.soak(1, 1);
+    due("22: sixty-one", x.lasts(0, 1, 1), NONE);
+    due("25: sixty-one", x.fits(0), NONE);
+    x.days(1);
+    due("22: sixty again", x.lasts(0, 1, 1), 60);
   }
 
   // ---- promise 23
