@@ -362,7 +362,7 @@ public final class BreadSpans {
       }
     }
     int below = MOST_RAIN + 1;
-    int common = greatestCommon(above, below);
+    int common = Math.max(1, greatestCommon(above, below));
     return part == 0 ? above / common : below / common;
   }
 
