@@ -2,25 +2,7 @@
  * For each promise of the document ordinary inputs, the edges that it names, and wrong inputs. The
  * answers that are due are worked out by hand from the document.
  */
-public final class PromisesTest {
-  private static final int BEYOND = -1000000001;
-  private static final int NONE = -1000000002;
-  private static final int STATE = -1000000003;
-  private static final int FULL = -1000000004;
-  private static final int KIND = -1000000005;
-  private static final int PARTED = -1000000006;
-
-  private static int wrong = 0;
-  private static int asked = 0;
-
-  private static void due(String call, int got, int want) {
-    asked++;
-    if (got != want) {
-      wrong++;
-      System.out.println(call + " answered " + got + ", due is " + want);
-    }
-  }
-
+public final class PromisesTest extends Dues {
   public static void main(String[] args) {
     newObject();
     span();
@@ -68,54 +50,7 @@ public final class PromisesTest {
     count();
     told();
     errorsChangeNothing();
-    System.out.println(wrong == 0 ? asked + " answers are as due" : wrong + " answers are not as due");
-    if (wrong != 0) {
-      System.exit(1);
-    }
-  }
-
-  /** Feeds a text to THE TAPE, in words of 8 bytes at most. */
-  private static void tape(BreadSpans x, String s) {
-    for (int at = 0; at < s.length(); at += 8) {
-      int n = Math.min(8, s.length() - at);
-      long word = 0;
-      for (int i = n - 1; i >= 0; i--) {
-        word = word << 8 | s.charAt(at + i);
-      }
-      due("feed " + s, x.feed(word, n), at + n);
-    }
-  }
-
-  private static void written(BreadSpans x, int use, String s) {
-    tape(x, s);
-    due("text(" + use + ") of " + s, x.text(use), 1);
-  }
-
-  private static void faulty(int use, String s, int fault) {
-    BreadSpans x = new BreadSpans();
-    tape(x, s);
-    due("text(" + use + ") of " + s, x.text(use), -10 - fault);
-    due("no tape behind " + s, x.count(6), 0);
-  }
-
-  private static void gives(String s, int r, int w, int k, int want) {
-    BreadSpans x = new BreadSpans();
-    written(x, 0, s);
-    due("law(0, " + r + ", " + w + ", " + k + ") by " + s, x.law(0, r, w, k), want);
-  }
-
-  private static BreadSpans withSpans(int... kmOneOther) {
-    BreadSpans x = new BreadSpans();
-    for (int i = 0; i < kmOneOther.length; i += 3) {
-      due("span " + i / 3, x.span(kmOneOther[i], kmOneOther[i + 1], kmOneOther[i + 2]), i / 3);
-    }
-    return x;
-  }
-
-  private static void ages(BreadSpans x, int n) {
-    for (int left = n; left > 0; left -= 60) {
-      x.days(Math.min(60, left));
-    }
+    end();
   }
 
   // ---- promise 1
@@ -661,13 +596,6 @@ public final class PromisesTest {
 
   // ---- promise 16
 
-  private static int drawnZ;
-
-  private static int draw() {
-    drawnZ = (int) (drawnZ * 1103515245L + 12345L);
-    return drawnZ >>> 8;
-  }
-
   private static void loose() {
     BreadSpans x = new BreadSpans();
     due("16: n below", x.loose(0), BEYOND);
@@ -675,21 +603,21 @@ public final class PromisesTest {
     due("16: no draws yet", x.count(9), 1);
     due("16: no SPANS", x.loose(30), 0);
     due("16: DAY", x.count(1), 30);
-    drawnZ = 1;
+    drawFrom(1);
     int rain = 0;
     for (int i = 0; i < 30; i++) {
       rain = Math.max(0, draw() % 16 - 6);
     }
-    due("16: one draw a DAY", x.count(9), drawnZ);
+    due("16: one draw a DAY", x.count(9), drawn());
     due("16: RAIN", x.count(2), rain);
     BreadSpans y = withSpans(0, 0, 1);
     y.eat(0);
     due("16: none breaks", y.loose(1), 0);
-    drawnZ = 1;
+    drawFrom(1);
     draw();
     draw();
     draw();
-    due("16: three draws a DAY", y.count(9), drawnZ);
+    due("16: three draws a DAY", y.count(9), drawn());
     due("16: AGE", y.spanIs(0, 4), 1);
     due("16: TOLL", y.count(5), 0);
     due("16: LOST", y.count(4), 0);
@@ -713,7 +641,7 @@ public final class PromisesTest {
     int seen = 0;
     for (int i = 0; i < 60; i++) {
       x.seed(i * 7919);
-      drawnZ = i * 7919;
+      drawFrom(i * 7919);
       int rain = Math.max(0, draw() % 16 - 6);
       int span = draw() % 3;
       int load = draw() % 30;
